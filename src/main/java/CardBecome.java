@@ -58,7 +58,7 @@ public final class CardBecome {
         now = new Play();
         past = new Past();
         papers = new Papers();
-        unseen = new Deals(laid, now, papers);
+        unseen = new Deals();
         images = new Image[MOST_IMAGES];
         for (int i = 0; i < MOST_IMAGES; i++) {
             images[i] = new Image();
@@ -423,7 +423,7 @@ public final class CardBecome {
         if (n < 1 || n > MOST_UNSEEN) {
             return OUTSIDE;
         }
-        unseen.lay(n);
+        unseen.lay(n, laid, now, papers);
         return p == NONE ? unseen.ways : unseen.sureOf(p);
     }
 
@@ -431,7 +431,7 @@ public final class CardBecome {
         if (n < 1 || n > MOST_UNSEEN) {
             return OUTSIDE;
         }
-        unseen.lay(n);
+        unseen.lay(n, laid, now, papers);
         return unseen.bestPair();
     }
 
@@ -567,17 +567,13 @@ public final class CardBecome {
 
     /** Tries all who may draw next, the least first: so the first order that is found is the least number. */
     private int orderFrom(int turn, int turns, int set, int figures) {
-        boolean ended = turn >= turns || turn >= MOST_PERSONS;
-        if (!setWins(set, ended)) {
-            return NONE;
-        }
-        if (ended) {
-            return figures;
+        if (turn >= turns || turn >= MOST_PERSONS) {
+            return setWins(set) ? figures : NONE;
         }
         for (int p = 0; p < laid.persons && p < MOST_PERSONS; p++) {
             if (would[p] == NONE) {
                 would[p] = now.cardAt(turn);
-                int found = orderFrom(turn + 1, turns, set, 10 * figures + p + 1);
+                int found = isNoHindrance(p, set) ? orderFrom(turn + 1, turns, set, 10 * figures + p + 1) : NONE;
                 would[p] = NONE;
                 if (found != NONE) {
                     return found;
@@ -587,13 +583,24 @@ public final class CardBecome {
         return NONE;
     }
 
-    /** Ahead of the end, whoever is itself may still draw, so only those who are cards can spoil it. */
-    private boolean setWins(int set, boolean ended) {
+    /** Who is a card by now stays it, so an order is given up as soon as one of these spoils it. */
+    private boolean isNoHindrance(int p, int set) {
+        int side = set >> p & 1;
+        int due = side == 1 ? FIRST : SECOND;
+        for (int q = 0; q < laid.persons; q++) {
+            boolean settled = (set >> q & 1) != side && wouldBe(q) != NONE;
+            if (settled && laid.between(wouldBe(p), wouldBe(q)) != due) {
+                return false;
+            }
+        }
+        return true;
+    }
+
+    private boolean setWins(int set) {
         for (int p = 0; p < laid.persons; p++) {
             for (int q = 0; q < laid.persons; q++) {
                 boolean asked = (set >> p & 1) == 1 && (set >> q & 1) == 0;
-                boolean sure = ended || wouldBe(p) != NONE && wouldBe(q) != NONE;
-                if (asked && sure && laid.between(wouldBe(p), wouldBe(q)) != FIRST) {
+                if (asked && laid.between(wouldBe(p), wouldBe(q)) != FIRST) {
                     return false;
                 }
             }
@@ -708,6 +715,8 @@ public final class CardBecome {
         long told;
         private final int[] rank = new int[MOST_CARDS];
         private final int[] suit = new int[MOST_CARDS];
+        /** For each card the set of those that it beats by the told rules, which all that is tried asks for again and again. */
+        private final int[] beaten = new int[MOST_CARDS];
 
         void clear() {
             stands = false;
@@ -729,6 +738,19 @@ public final class CardBecome {
             told = other.told;
             System.arraycopy(other.rank, 0, rank, 0, MOST_CARDS);
             System.arraycopy(other.suit, 0, suit, 0, MOST_CARDS);
+            for (int c = 0; c < MOST_CARDS; c++) {
+                beaten[c] = allBeatenBy(c);
+            }
+        }
+
+        private int allBeatenBy(int c) {
+            int set = 0;
+            for (int d = 0; c < cards && d < cards; d++) {
+                if (byTrump(c, d, trump, low) == FIRST) {
+                    set |= 1 << d;
+                }
+            }
+            return set;
         }
 
         static int oneOfAll(int r, int s) {
@@ -770,13 +792,17 @@ public final class CardBecome {
 
         /** Of two who are these cards, or themselves (NONE), by the rules that were told. */
         int between(int c, int d) {
-            if (c == NONE || d == NONE) {
-                if (c == d) {
-                    return NEITHER;
-                }
-                return d == NONE ? FIRST : SECOND;
+            if (isBeaten(d, c)) {
+                return FIRST;
             }
-            return byTrump(c, d, trump, low);
+            return isBeaten(c, d) ? SECOND : NEITHER;
+        }
+
+        private boolean isBeaten(int loser, int winner) {
+            if (winner < 0 || winner >= MOST_CARDS) {
+                return false;
+            }
+            return loser == NONE || (beaten[winner] >> loser & 1) == 1;
         }
 
         /** Of two cards, by one of the ten rules; what a knave does is as told. */
@@ -1254,28 +1280,24 @@ public final class CardBecome {
         int ways;
         private int cards;
         private int holders;
-        private final Table table;
-        private final Play play;
-        private final Papers papers;
+        private final int[] top = new int[MOST_UNSEEN];
+        /** The way that is being tried: the card before each person. */
         private final int[] lies = new int[MOST_PERSONS];
+        /** The card before each person in all ways up to now, or NONE. */
         private final int[] sure = new int[MOST_PERSONS];
         /** For each pair of persons and each outcome, in how many ways it is so. */
         private final int[] parts = new int[MOST_PERSONS * MOST_PERSONS * OUTCOMES];
 
-        Deals(Table table, Play play, Papers papers) {
-            this.table = table;
-            this.play = play;
-            this.papers = papers;
-        }
-
-        void lay(int n) {
+        void lay(int n, Table table, Play play, Papers papers) {
             cards = Math.min(n, Math.min(play.packed, MOST_UNSEEN));
             holders = Math.min(cards, Math.min(table.persons, MOST_PERSONS));
+            for (int place = 0; place < MOST_UNSEEN; place++) {
+                top[place] = play.cardAt(place);
+            }
             ways = 0;
-            Arrays.fill(lies, NONE);
             Arrays.fill(sure, NONE);
             Arrays.fill(parts, 0);
-            layFrom(0, 0);
+            layFrom(0, 0, table, papers);
         }
 
         int sureOf(int p) {
@@ -1297,17 +1319,17 @@ public final class CardBecome {
             return answer;
         }
 
-        private void layFrom(int p, int used) {
+        private void layFrom(int p, int used, Table table, Papers papers) {
             if (p < 0 || p >= holders || p >= MOST_PERSONS) {
-                if (isAsSeen()) {
-                    countThis();
+                if (isAsSeen(table, papers)) {
+                    countThis(table);
                 }
                 return;
             }
-            for (int place = 0; place < cards; place++) {
+            for (int place = 0; place < cards && place < MOST_UNSEEN; place++) {
                 if ((used >> place & 1) == 0) {
-                    lies[p] = play.cardAt(place);
-                    layFrom(p + 1, used | 1 << place);
+                    lies[p] = top[place];
+                    layFrom(p + 1, used | 1 << place, table, papers);
                 }
             }
         }
@@ -1316,7 +1338,7 @@ public final class CardBecome {
             return p < 0 || p >= holders || p >= MOST_PERSONS ? NONE : lies[p];
         }
 
-        private boolean isAsSeen() {
+        private boolean isAsSeen(Table table, Papers papers) {
             for (int i = 0; i < papers.seen; i++) {
                 int c = cardBefore(papers.firstSeen(i));
                 int d = cardBefore(papers.secondSeen(i));
@@ -1327,7 +1349,7 @@ public final class CardBecome {
             return true;
         }
 
-        private void countThis() {
+        private void countThis(Table table) {
             for (int p = 0; p < holders && p < MOST_PERSONS; p++) {
                 if (ways == 0) {
                     sure[p] = lies[p];

@@ -197,6 +197,13 @@ public final class PromiseTest {
         due("told(0)", x.told(0), NONE);
         due("told(3)", x.told(3), 0);
         due("told(14)", x.told(14), 0);
+        lay(x, "r3 1 1;c1 1;p;");
+        due("told(1)", x.told(1), 1);
+        due("told(2)", x.told(2), 1);
+        x.table();
+        due("told(1) without a table", x.told(1), 0);
+        due("told(2) without a table", x.told(2), 0);
+        due("card(0, 0) without a table", x.card(0, 0), UNKNOWN);
     }
 
     private static void tableFaults() {
@@ -303,6 +310,14 @@ public final class PromiseTest {
         due("told(9): nobody any", y.told(9), NONE);
         y.getBack(0);
         due("told(9)", y.told(9), 1);
+        CardBecome falling = with("r4 0 0;c9 0;c8 0;c7 0;c6 0;p;p;p;p;");
+        drawAll(falling);
+        due("told(9): who beats most", falling.told(9), 0);
+        falling.getBack(0);
+        due("told(9): the next", falling.told(9), 1);
+        CardBecome alike = with("r4 0 0;c9 0;c9 1;c7 0;p;p;p;");
+        drawAll(alike);
+        due("told(9): of like ones the least", alike.told(9), 0);
         heldRules();
     }
 
@@ -335,6 +350,9 @@ public final class PromiseTest {
             }
         }
         due("card(6, 2)", x.card(6, 2), 4);
+        x.drawOne(0);
+        due("card(2, 3)", x.card(2, 3), 0);
+        due("card(2, 2)", x.card(2, 2), NONE);
         due("card(7, 0)", x.card(7, 0), UNKNOWN);
         due("card(-1, 0)", x.card(-1, 0), UNKNOWN);
         due("card(7, 5)", x.card(7, 5), UNKNOWN);
@@ -407,6 +425,12 @@ public final class PromiseTest {
         due("logged(23, 0): the oldest is lost", x.logged(23, 0), 0);
         due("logged(23, 1)", x.logged(23, 1), 3);
         due("logged(24, 0)", x.logged(24, 0), NONE);
+        due("logged(1, 0)", x.logged(1, 0), 1);
+        due("logged(1, 1)", x.logged(1, 1), 3);
+        x.undo();
+        due("logged(0, 0) after undo()", x.logged(0, 0), 1);
+        due("logged(23, 0): the oldest is there again", x.logged(23, 0), 1);
+        due("logged(23, 1)", x.logged(23, 1), 2);
     }
 
     private static void drawOne() {
@@ -437,6 +461,10 @@ public final class PromiseTest {
         due("getBack(4)", x.getBack(4), UNKNOWN);
         due("getBack(-1)", x.getBack(-1), UNKNOWN);
         due("told(14)", x.told(14), 3);
+        CardBecome empty = with("r0 0 0;c5 1;p;");
+        empty.drawOne(0);
+        due("getBack(0) to an empty pack", empty.getBack(0), 0);
+        duePack(empty, "0");
     }
 
     private static void meet() {
@@ -497,6 +525,13 @@ public final class PromiseTest {
             due("shuffle(" + k + ") of none", one.shuffle(k), NONE);
         }
         due("told(14)", one.told(14), 7);
+        CardBecome twelve = with("r0 0 0;c1 0;c2 0;c3 0;c4 0;c5 0;c6 0;c7 0;c8 0;c9 0;c10 0;c11 0;c12 0;p;");
+        twelve.shuffle(0);
+        duePack(twelve, "6 0 7 1 8 2 9 3 10 4 11 5");
+        twelve.shuffle(2);
+        duePack(twelve, "0 7 1 8 2 9 3 10 4 11 5 6");
+        twelve.shuffle(1);
+        duePack(twelve, "6 5 11 4 10 3 9 2 8 1 7 0");
         CardBecome none = new CardBecome();
         due("shuffle(2) without a table", none.shuffle(2), NOT);
         due("shuffle(3) without a table", none.shuffle(3), OUTSIDE);
@@ -553,6 +588,7 @@ public final class PromiseTest {
         due("logged(0, 0)", x.logged(0, 0), 1);
         due("logged(0, 1)", x.logged(0, 1), 3);
         due("told(14): each drift can be undone", x.told(14), 2);
+        driftByKinds();
         CardBecome y = with(SEVEN);
         due("drift(60)", y.drift(60) >= 0 ? 1 : 0, 1);
         due("told(14): one for all of it", y.told(14), 1);
@@ -567,6 +603,44 @@ public final class PromiseTest {
         CardBecome none = new CardBecome();
         due("drift(1) without a table", none.drift(1), NOT);
         due("drift(0) without a table", none.drift(0), OUTSIDE);
+    }
+
+    /** Seeds by which the one step is of a kind that is known, for four persons. */
+    private static void driftByKinds() {
+        CardBecome x = with(SEVEN);
+        x.seed(9);
+        due("drift(1): 0 has drawn, by 0", x.drift(1), 1);
+        due("person(0, 0)", x.person(0, 0), 0);
+        x.seed(4);
+        due("drift(1): 1 has drawn, by 1", x.drift(1), 3);
+        due("person(1, 0)", x.person(1, 0), 1);
+        x.seed(7);
+        due("drift(1): 0 can not draw", x.drift(1), 3);
+        duePack(x, "2 3 4 5 6");
+        x.seed(20);
+        due("drift(1): 2 has nothing to get back", x.drift(1), 3);
+        x.seed(2);
+        due("drift(1): 0 got back", x.drift(1), 2);
+        duePack(x, "2 3 4 5 6 0");
+        x.seed(30);
+        due("drift(1): 1 met 0", x.drift(1), 2);
+        due("logged(0, 0)", x.logged(0, 0), 1);
+        due("logged(0, 1)", x.logged(0, 1), 0);
+        due("logged(0, 2)", x.logged(0, 2), 1);
+        due("person(1, 1)", x.person(1, 1), 1);
+        x.seed(42);
+        x.drift(1);
+        due("told(10): 1 did not meet itself", x.told(10), 1);
+        x.seed(25);
+        due("drift(1): a riffle", x.drift(1), 2);
+        duePack(x, "5 2 6 3 0 4");
+        x.seed(10);
+        due("drift(1): turned", x.drift(1), 2);
+        duePack(x, "4 0 3 6 2 5");
+        x.seed(8);
+        due("drift(1): cut", x.drift(1), 2);
+        duePack(x, "0 3 6 2 5 4");
+        due("told(14)", x.told(14), 10);
     }
 
     private static void undo() {
@@ -669,6 +743,9 @@ public final class PromiseTest {
         due("rings(0)", two.rings(0), 21);
         due("rings(1)", two.rings(1), 31);
         due("rings(2)", two.rings(2), NONE);
+        CardBecome forward = with("r4 0 1;c13 0;c12 1;c11 0;p;p;p;");
+        drawAll(forward);
+        due("rings(0) of each who beats the next", forward.rings(0), 12);
         two.getBack(3);
         due("rings(NONE) of three and one itself", two.rings(NONE), 1);
     }
@@ -742,6 +819,12 @@ public final class PromiseTest {
         due("tells(): none parts them", x.tells(), NONE);
         CardBecome knave = with("r4 0 1;c11 0;c9 0;p;p;");
         due("tells(): knaves are as told, none parts them", knave.tells(), NONE);
+        // Held are both of trump 0 and, as the lower one won, the lower ones of trump 2, 3 and none.
+        CardBecome three = with("r0 0 0;c2 0;c9 1;c9 2;c4 3;p;p;p;p;");
+        drawAll(three);
+        three.meet(0, 1);
+        due("told(11)", three.told(11), 1 + 2 + 32 + 128 + 512);
+        due("tells(): the 9 of 2 and the 4 of 3 part as 2 and 3, all others as 4 and 1 or not", three.tells(), 203);
     }
 
     private static void odds() {
@@ -795,6 +878,10 @@ public final class PromiseTest {
         CardBecome even = with("r4 0 0;c2 0;c3 0;c4 0;p;p;p;");
         drawAll(even);
         due("back(1): one and one", even.back(1), 0);
+        CardBecome first = with("r4 0 0;c4 0;c3 0;c3 1;p;p;p;");
+        drawAll(first);
+        due("back(1): beaten by the first alone", first.back(1), 1);
+        due("back(0)", first.back(0), 0);
     }
 
     private static void missing() {
