@@ -852,7 +852,9 @@ public final class CardBecome {
             fault = 0;
             faultAt = NONE;
             draft.clear();
-            if (letters > 0) {
+            // Blanks tell nothing, so a text of blanks alone is as an empty one.
+            skipBlanks();
+            if (at < letters) {
                 readAll();
             }
             letters = 0;

@@ -316,7 +316,7 @@ public final class ModelTest {
 
         int table() {
             List<int[]> clauses = new ArrayList<>();
-            int fault = text.isEmpty() ? 0 : parse(clauses);
+            int fault = text.replace(" ", "").isEmpty() ? 0 : parse(clauses);
             text = "";
             faultAt = fault == 0 ? NONE : fault % 1000;
             if (fault != 0) {

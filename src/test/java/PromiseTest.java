@@ -73,6 +73,7 @@ public final class PromiseTest {
         newObject();
         feed();
         table();
+        tableOfBlanks();
         tableFaults();
         fault();
         told();
@@ -206,6 +207,36 @@ public final class PromiseTest {
         due("card(0, 0) without a table", x.card(0, 0), UNKNOWN);
     }
 
+    private static void tableOfBlanks() {
+        promise = "3 table, blanks alone";
+        for (int blanks = 1; blanks <= 240; blanks++) {
+            CardBecome x = with(SEVEN);
+            x.drawOne(0);
+            x.meet(0, 1);
+            x.see(0, 1, 0);
+            x.write(0, 0);
+            x.keep(1);
+            x.drawOne(1);
+            x.seed(5);
+            String what = " after " + blanks + " blanks";
+            due("table()" + what, lay(x, " ".repeat(blanks)), 0);
+            due("fault()" + what, x.fault(), NONE);
+            int[] told = {NONE, 0, 0, 0, 0, 0, 0, 0, 0, NONE, 0, 1023, 0, 0, 0};
+            for (int i = 0; i < told.length; i++) {
+                due("told(" + i + ")" + what, x.told(i), told[i]);
+            }
+            due("shuffle(0)" + what, x.shuffle(0), NOT);
+            due("person(0, 0)" + what, x.person(0, 0), UNKNOWN);
+            due("goBack(1)" + what, x.goBack(1), NOT);
+            due("seed(0)" + what, x.seed(0), 5);
+        }
+        CardBecome x = new CardBecome();
+        lay(x, "x");
+        due("table() of a blank behind a fault", lay(x, " "), 0);
+        due("fault() of a blank behind a fault", x.fault(), NONE);
+        due("table() of a text behind blanks", lay(x, "  r0 0 0;p;"), 1);
+    }
+
     private static void tableFaults() {
         promise = "3 table, faults";
         String r = "r0 0 0;";
@@ -215,7 +246,6 @@ public final class PromiseTest {
         dueFault("7", 1, 0);
         dueFault("12345", 1, 0);
         dueFault("R0 0 0;", 1, 0);
-        dueFault("   ", 1, 3);
         dueFault("  x", 1, 2);
         dueFault("r", 1, 1);
         dueFault("r0", 1, 2);
