@@ -35,10 +35,47 @@ public final class ModelTest {
         for (int i = 0; i < OBJECTS && wrong < 5; i++) {
             wrong += new ModelTest(i).run() ? 0 : 1;
         }
+        wrong += shortTexts() ? 0 : 1;
         System.out.println(wrong == 0 ? "the class and the model agree" : "the class and the model differ");
         if (wrong != 0) {
             System.exit(1);
         }
+    }
+
+    /** Every row of a few letters behind beginnings of all kinds. */
+    private static boolean shortTexts() {
+        String[] begun = {"", "r", "r4 1 ", "r0 0 0;", "r0 0 0;c1 1;", "r0 0 0;c1 1;c1", "r0 0 0;p;p;p;p;p;p;",
+            "r0 0 0;c1 0;c2 0;c3 0;c4 0;c5 0;c6 0;c7 0;c8 0;c9 0;c10 0;c11 0;c12 0;"};
+        String letters = "rcp; 014x";
+        for (String text : begun) {
+            for (int row = 0; row < 9 * 9 * 9 * 9; row++) {
+                StringBuilder all = new StringBuilder(text);
+                for (int left = row; left > 0; left /= 9) {
+                    all.append(letters.charAt(left % 9));
+                }
+                if (!agreeOn(all.toString())) {
+                    return false;
+                }
+            }
+        }
+        return true;
+    }
+
+    private static boolean agreeOn(String text) {
+        CardBecome mine = new CardBecome();
+        Model other = new Model();
+        for (char letter : text.toCharArray()) {
+            mine.feed(letter);
+            other.feed(letter);
+        }
+        int got = mine.table();
+        int want = other.table();
+        boolean agree = got == want && mine.fault() == other.fault() && mine.told(3) == other.told(3);
+        if (!agree) {
+            System.out.println("table() of \"" + text + "\" answered " + got + " at " + mine.fault() + ", the model says "
+                + want + " at " + other.fault());
+        }
+        return agree;
     }
 
     private boolean run() throws ReflectiveOperationException {
