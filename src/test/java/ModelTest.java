@@ -160,6 +160,9 @@ public final class ModelTest {
     }
 
     private boolean ask(String name, int... numbers) throws ReflectiveOperationException {
+        if (calls.size() >= CALLS) {
+            return true;
+        }
         Class<?>[] types = new Class<?>[numbers.length];
         Arrays.fill(types, int.class);
         Object[] given = Arrays.stream(numbers).boxed().toArray();

@@ -5,6 +5,9 @@ import java.util.List;
 /** Section 2 of the document and promises 5 to 18, sentence by sentence: what is, what is done, what is undone. */
 public final class PlaySentencesTest extends Sentences {
     public static void main(String[] args) {
+        cutsTowardsZero();
+        fromZeroOn();
+        setsByBits();
         itselfAtFirst();
         beatsOfAllPairs();
         likeRanks();
@@ -42,6 +45,41 @@ public final class PlaySentencesTest extends Sentences {
         undoneAll();
         undoRefused();
         end();
+    }
+
+    private static void cutsTowardsZero() {
+        sentence("All numbers are whole; / cuts towards 0.");
+        CardBecome x = with("r4 0 0;c5 0;c4 0;c6 0;c3 0;p;p;");
+        x.drawOne(0);
+        due("odds(1, 0): 333333 of a third", x.odds(1, 0), 333333);
+        x.shuffle(0);
+        duePack("riffled: the upper half of three is one", x, "2 1 3");
+    }
+
+    private static void fromZeroOn() {
+        sentence("What has a number has it from 0 on, as it comes.");
+        CardBecome x = with("r4 0 0;p;c9 3;c2 1;p;");
+        due("card(0, 0)", x.card(0, 0), 9);
+        due("card(1, 0)", x.card(1, 0), 2);
+        due("card(2, 0)", x.card(2, 0), UNKNOWN);
+        due("person(1, 0)", x.person(1, 0), NONE);
+        due("person(2, 0)", x.person(2, 0), UNKNOWN);
+        x.write(0, NONE);
+        x.write(0, 1);
+        due("judge(): the second entry is 1", x.judge(), 1);
+    }
+
+    private static void setsByBits() {
+        sentence("A SET is a whole number, bit k for k.");
+        for (int k = 0; k < 6; k++) {
+            CardBecome x = with(TWELVE);
+            x.force(2 * k + 1);
+            x.drawOne(k);
+            due("told(8): the bit of " + k, x.told(8), 1 << k);
+            due("person(" + k + ", 2): all other bits", x.person(k, 2), 63 - (1 << k));
+            x.drawer(k);
+            due("told(7): the bit of " + (2 * k + 1), x.told(7), 1 << 2 * k + 1);
+        }
     }
 
     private static void itselfAtFirst() {
@@ -334,6 +372,9 @@ public final class PlaySentencesTest extends Sentences {
             due("card(" + c + ", 2)", x.card(c, 2), c);
             due("card(" + c + ", 4)", x.card(c, 4), 0);
         }
+        x.drawOne(0);
+        due("card(0, 3)", x.card(0, 3), 0);
+        x.undo();
         x.drawOne(5);
         due("card(0, 2) of what somebody is", x.card(0, 2), NONE);
         due("card(0, 3)", x.card(0, 3), 5);
@@ -643,6 +684,9 @@ public final class PlaySentencesTest extends Sentences {
         one.drift(60);
         one.drift(60);
         due("told(10): one alone meets nobody", one.told(10), 0);
+        CardBecome draws = with("r4 0 0;c5 0;p;");
+        draws.seed(seedOf(0, 0, 0, 4));
+        due("drift(1): one alone draws", draws.drift(1), 1);
     }
 
     private static void driftWithoutPersons() {
@@ -672,15 +716,6 @@ public final class PlaySentencesTest extends Sentences {
         }
     }
 
-    private static String all(CardBecome x) {
-        StringBuilder text = new StringBuilder(packOf(x)).append('/').append(isOf(x)).append('/').append(winsOf(x));
-        text.append('/').append(x.told(7)).append('/').append(x.told(10)).append('/');
-        for (int i = 0; i < x.told(10); i++) {
-            text.append(x.logged(i, 0)).append(x.logged(i, 1)).append(x.logged(i, 2)).append(' ');
-        }
-        return text.append(x.told(11)).toString();
-    }
-
     private static int doOne(CardBecome x, int kind) {
         switch (kind) {
             case 0: return x.drawOne(2);
@@ -702,11 +737,11 @@ public final class PlaySentencesTest extends Sentences {
             x.drawOne(1);
             x.drawer(1);
             x.meet(0, 1);
-            String was = all(x);
+            String was = sectionTwo(x);
             due("told(14)", x.told(14), 4);
             due("kind " + kind + " is not refused", doOne(x, kind) >= NONE ? 1 : 0, 1);
             due("told(14) behind kind " + kind, x.told(14), 5);
-            due("kind " + kind + " changes something", all(x).equals(was) ? 1 : 0, 0);
+            due("kind " + kind + " changes something", sectionTwo(x).equals(was) ? 1 : 0, 0);
             x.drawOne(9);
             x.getBack(-1);
             x.meet(1, 1);
@@ -720,7 +755,7 @@ public final class PlaySentencesTest extends Sentences {
             x.tear();
             x.feed(' ');
             due("undo() of kind " + kind, x.undo(), 4);
-            due("all of section 2 behind undo() of kind " + kind, all(x), was);
+            due("all of section 2 behind undo() of kind " + kind, sectionTwo(x), was);
         }
     }
 
@@ -759,7 +794,7 @@ public final class PlaySentencesTest extends Sentences {
         drawAll(x);
         x.drawer(3);
         x.meet(0, 1);
-        String was = all(x);
+        String was = sectionTwo(x);
         x.seed(5);
         x.drift(60);
         int seed = x.seed(0);
@@ -768,7 +803,7 @@ public final class PlaySentencesTest extends Sentences {
         x.see(0, 1, 0);
         x.write(1, 1);
         due("undo()", x.undo(), 6);
-        due("all of section 2", all(x), was);
+        due("all of section 2", sectionTwo(x), was);
         due("seed(0): it stays", x.seed(0), seed);
         due("told(12): of section 3, it stays", x.told(12), 1);
         due("told(13): of section 3, it stays", x.told(13), 1);

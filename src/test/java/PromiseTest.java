@@ -1,72 +1,11 @@
 /** Every promise by hand: ordinary inputs, the edges that the document names, wrong inputs. */
-public final class PromiseTest {
-    private static final int NONE = -1;
-    private static final int UNKNOWN = -1000000001;
-    private static final int OUTSIDE = -1000000002;
-    private static final int NOT = -1000000003;
-    private static final int FULL = -1000000004;
-
-    /** Cards 0: 9 of 1, 1: 11 of 0, 2: 13 of 0, 3: 2 of 2 (trump), 4: 9 of 3, 5: 5 of 1, 6: 1 of 0. */
-    private static final String SEVEN = "r2 0 1;c9 1;c11 0;c13 0;c2 2;c9 3;c5 1;c1 0;p;p;p;p;";
-
-    private static int wrong;
-    private static String promise = "";
-
-    private static void due(String call, int got, int want) {
-        if (got != want) {
-            wrong++;
-            System.out.println(promise + ": " + call + " answered " + got + ", due is " + want);
-        }
-    }
-
-    private static void feedAll(CardBecome x, String text) {
-        for (int i = 0; i < text.length(); i++) {
-            x.feed(text.charAt(i));
-        }
-    }
-
-    private static int lay(CardBecome x, String text) {
-        feedAll(x, text);
-        return x.table();
-    }
-
-    private static CardBecome with(String text) {
-        CardBecome x = new CardBecome();
-        int answer = lay(x, text);
-        if (answer < 0) {
-            wrong++;
-            System.out.println(promise + ": the text " + text + " has fault " + answer + " at " + x.fault());
-        }
-        return x;
-    }
-
-    private static String packOf(CardBecome x) {
-        StringBuilder row = new StringBuilder();
-        for (int i = 0; i < x.told(6); i++) {
-            row.append(i == 0 ? "" : " ").append(x.pack(i));
-        }
-        return row.toString();
-    }
-
-    private static void duePack(CardBecome x, String want) {
-        if (!packOf(x).equals(want)) {
-            wrong++;
-            System.out.println(promise + ": the pack is " + packOf(x) + ", due is " + want);
-        }
-    }
-
+public final class PromiseTest extends Sentences {
     private static void dueFault(String text, int number, int letter) {
         CardBecome x = new CardBecome();
         due("table() of \"" + text + "\"", lay(x, text), -10 - number);
         due("fault() of \"" + text + "\"", x.fault(), letter);
         due("told(5) of \"" + text + "\"", x.told(5), 0);
         due("told(0) of \"" + text + "\"", x.told(0), NONE);
-    }
-
-    private static void drawAll(CardBecome x) {
-        for (int p = 0; p < x.told(4); p++) {
-            x.drawOne(p);
-        }
     }
 
     public static void main(String[] args) {
@@ -108,14 +47,11 @@ public final class PromiseTest {
         seed();
         keep();
         goBack();
-        System.out.println(wrong == 0 ? "every promise is kept" : wrong + " answers are not as due");
-        if (wrong != 0) {
-            System.exit(1);
-        }
+        end();
     }
 
     private static void newObject() {
-        promise = "1 a new object";
+        about("1 a new object");
         CardBecome x = new CardBecome();
         int[] told = {NONE, 0, 0, 0, 0, 0, 0, 0, 0, NONE, 0, 1023, 0, 0, 0};
         for (int what = 0; what < told.length; what++) {
@@ -140,7 +76,7 @@ public final class PromiseTest {
     }
 
     private static void feed() {
-        promise = "2 feed";
+        about("2 feed");
         CardBecome x = new CardBecome();
         due("feed(0)", x.feed(0), 1);
         due("feed(255)", x.feed(255), 2);
@@ -158,7 +94,7 @@ public final class PromiseTest {
     }
 
     private static void table() {
-        promise = "3 table";
+        about("3 table");
         CardBecome x = new CardBecome();
         due("table() of nothing", x.table(), 0);
         due("told(0)", x.told(0), NONE);
@@ -208,7 +144,7 @@ public final class PromiseTest {
     }
 
     private static void tableOfBlanks() {
-        promise = "3 table, blanks alone";
+        about("3 table, blanks alone");
         for (int blanks = 1; blanks <= 240; blanks++) {
             CardBecome x = with(SEVEN);
             x.drawOne(0);
@@ -238,7 +174,7 @@ public final class PromiseTest {
     }
 
     private static void tableFaults() {
-        promise = "3 table, faults";
+        about("3 table, faults");
         String r = "r0 0 0;";
         dueFault("c1 1;", 1, 0);
         dueFault("p;", 1, 0);
@@ -300,7 +236,7 @@ public final class PromiseTest {
     }
 
     private static void fault() {
-        promise = "4 fault";
+        about("4 fault");
         CardBecome x = new CardBecome();
         due("fault() ahead of table()", x.fault(), NONE);
         lay(x, "r0 0 0;q");
@@ -316,7 +252,7 @@ public final class PromiseTest {
     }
 
     private static void told() {
-        promise = "5 told";
+        about("5 told");
         CardBecome x = with(SEVEN);
         drawAll(x);
         x.drawer(2);
@@ -368,7 +304,7 @@ public final class PromiseTest {
     }
 
     private static void card() {
-        promise = "6 card";
+        about("6 card");
         CardBecome x = with(SEVEN);
         x.drawOne(2);
         x.drawOne(1);
@@ -391,7 +327,7 @@ public final class PromiseTest {
     }
 
     private static void pack() {
-        promise = "7 pack";
+        about("7 pack");
         CardBecome x = with(SEVEN);
         duePack(x, "0 1 2 3 4 5 6");
         due("pack(7)", x.pack(7), NONE);
@@ -403,7 +339,7 @@ public final class PromiseTest {
     }
 
     private static void person() {
-        promise = "8 person";
+        about("8 person");
         CardBecome x = with(SEVEN);
         due("person(0, 0)", x.person(0, 0), NONE);
         due("person(0, 2)", x.person(0, 2), 0);
@@ -427,7 +363,7 @@ public final class PromiseTest {
     }
 
     private static void logged() {
-        promise = "9 logged";
+        about("9 logged");
         CardBecome x = with(SEVEN);
         x.drawOne(0);
         x.meet(3, 0);
@@ -464,7 +400,7 @@ public final class PromiseTest {
     }
 
     private static void drawOne() {
-        promise = "10 drawOne";
+        about("10 drawOne");
         CardBecome x = with("r0 0 0;c3 0;c4 0;p;p;p;");
         due("drawOne(1)", x.drawOne(1), 0);
         due("drawOne(1) of one who is a card", x.drawOne(1), NOT);
@@ -479,7 +415,7 @@ public final class PromiseTest {
     }
 
     private static void getBack() {
-        promise = "11 getBack";
+        about("11 getBack");
         CardBecome x = with(SEVEN);
         due("getBack(0)", x.getBack(0), NOT);
         x.drawOne(0);
@@ -498,7 +434,7 @@ public final class PromiseTest {
     }
 
     private static void meet() {
-        promise = "12 meet";
+        about("12 meet");
         CardBecome x = with("r4 0 0;c5 0;c5 1;c6 1;p;p;p;p;");
         due("meet of two who are themselves", x.meet(0, 1), NONE);
         drawAll(x);
@@ -516,7 +452,7 @@ public final class PromiseTest {
     }
 
     private static void force() {
-        promise = "13 force";
+        about("13 force");
         CardBecome x = with(SEVEN);
         due("force(3)", x.force(3), 3);
         duePack(x, "3 0 1 2 4 5 6");
@@ -533,7 +469,7 @@ public final class PromiseTest {
     }
 
     private static void shuffle() {
-        promise = "14 shuffle";
+        about("14 shuffle");
         CardBecome x = with(SEVEN);
         due("shuffle(0)", x.shuffle(0), 3);
         duePack(x, "3 0 4 1 5 2 6");
@@ -568,7 +504,7 @@ public final class PromiseTest {
     }
 
     private static void drawer() {
-        promise = "15 drawer";
+        about("15 drawer");
         CardBecome x = with(SEVEN);
         due("drawer(0) of one who is itself", x.drawer(0), NOT);
         x.drawOne(0);
@@ -587,7 +523,7 @@ public final class PromiseTest {
     }
 
     private static void out() {
-        promise = "16 out";
+        about("16 out");
         CardBecome x = with(SEVEN);
         due("out(0) of the pack", x.out(0), NOT);
         x.drawOne(0);
@@ -604,7 +540,7 @@ public final class PromiseTest {
     }
 
     private static void drift() {
-        promise = "17 drift";
+        about("17 drift");
         CardBecome x = with(SEVEN);
         due("drift(0)", x.drift(0), OUTSIDE);
         due("drift(61)", x.drift(61), OUTSIDE);
@@ -674,7 +610,7 @@ public final class PromiseTest {
     }
 
     private static void undo() {
-        promise = "18 undo";
+        about("18 undo");
         CardBecome x = with(SEVEN);
         due("undo() of nothing", x.undo(), NOT);
         x.drawOne(0);
@@ -731,7 +667,7 @@ public final class PromiseTest {
     }
 
     private static void beats() {
-        promise = "19 beats";
+        about("19 beats");
         CardBecome x = with(SEVEN);
         due("a trump, the first", x.beats(3, 2), 1);
         due("a trump, the second", x.beats(2, 3), 2);
@@ -758,7 +694,7 @@ public final class PromiseTest {
     }
 
     private static void rings() {
-        promise = "20 rings";
+        about("20 rings");
         // The knave beats the king of its suit, he the queen of another, she the knave.
         CardBecome x = with("r4 0 1;c11 0;c12 1;c13 0;p;p;p;");
         due("rings(NONE) of none", x.rings(NONE), 0);
@@ -781,7 +717,7 @@ public final class PromiseTest {
     }
 
     private static void order() {
-        promise = "21 order";
+        about("21 order");
         CardBecome x = with(SEVEN);
         due("order(1)", x.order(1), 2341);
         due("order(0)", x.order(0), 1234);
@@ -809,7 +745,7 @@ public final class PromiseTest {
     }
 
     private static void row() {
-        promise = "22 row";
+        about("22 row");
         CardBecome x = with(SEVEN);
         due("row(0, 0, 0)", x.row(0, 0, 0), 0);
         due("row(0, 0, 1)", x.row(0, 0, 1), NONE);
@@ -834,7 +770,7 @@ public final class PromiseTest {
     }
 
     private static void tells() {
-        promise = "23 tells";
+        about("23 tells");
         CardBecome one = with("r4 0 0;c2 0;p;p;");
         due("tells() of one card", one.tells(), NONE);
         // Of the ten rules, 0 and 1 win by the first three ways of trump, like ranks part by two trumps alone.
@@ -858,7 +794,7 @@ public final class PromiseTest {
     }
 
     private static void odds() {
-        promise = "24 odds";
+        about("24 odds");
         CardBecome x = with(SEVEN);
         due("odds(0, 1) against one who is itself", x.odds(0, 1), 1000000);
         x.drawOne(1);
@@ -890,7 +826,7 @@ public final class PromiseTest {
     }
 
     private static void back() {
-        promise = "25 back";
+        about("25 back");
         CardBecome x = with(SEVEN);
         due("back(0) of one who is itself", x.back(0), NOT);
         drawAll(x);
@@ -915,7 +851,7 @@ public final class PromiseTest {
     }
 
     private static void missing() {
-        promise = "26 missing";
+        about("26 missing");
         CardBecome none = new CardBecome();
         due("missing(NONE) without a table", none.missing(NONE), NOT);
         due("missing(0) without a table", none.missing(0), NOT);
@@ -935,7 +871,7 @@ public final class PromiseTest {
     }
 
     private static void wanted() {
-        promise = "27 wanted";
+        about("27 wanted");
         CardBecome x = with(SEVEN);
         due("wanted(0) of likes", x.wanted(0), 0);
         due("wanted(1) of likes", x.wanted(1), 3);
@@ -966,7 +902,7 @@ public final class PromiseTest {
     }
 
     private static void see() {
-        promise = "28 see";
+        about("28 see");
         CardBecome x = with(SEVEN);
         due("see(0, 1, 3)", x.see(0, 1, 3), OUTSIDE);
         due("see(0, 1, -1)", x.see(0, 1, -1), OUTSIDE);
@@ -984,7 +920,7 @@ public final class PromiseTest {
     }
 
     private static void deals() {
-        promise = "29 deals";
+        about("29 deals");
         CardBecome x = with(SEVEN);
         due("deals(3, NONE)", x.deals(3, NONE), 6);
         due("deals(5, NONE): four of five", x.deals(5, NONE), 120);
@@ -1028,7 +964,7 @@ public final class PromiseTest {
     }
 
     private static void ask() {
-        promise = "30 ask";
+        about("30 ask");
         CardBecome x = with(SEVEN);
         due("ask(1)", x.ask(1), NONE);
         due("ask(2)", x.ask(2), 1);
@@ -1048,7 +984,7 @@ public final class PromiseTest {
     }
 
     private static void write() {
-        promise = "31 write";
+        about("31 write");
         CardBecome x = with(SEVEN);
         due("write(0, 7)", x.write(0, 7), UNKNOWN);
         due("write(0, -2)", x.write(0, -2), UNKNOWN);
@@ -1066,7 +1002,7 @@ public final class PromiseTest {
     }
 
     private static void tear() {
-        promise = "32 tear";
+        about("32 tear");
         CardBecome x = with(SEVEN);
         x.see(0, 1, 0);
         x.write(0, 0);
@@ -1079,7 +1015,7 @@ public final class PromiseTest {
     }
 
     private static void judge() {
-        promise = "33 judge";
+        about("33 judge");
         CardBecome x = with(SEVEN);
         due("judge() of nothing", x.judge(), NONE);
         x.write(0, NONE);
@@ -1100,7 +1036,7 @@ public final class PromiseTest {
     }
 
     private static void seed() {
-        promise = "34 seed";
+        about("34 seed");
         CardBecome x = new CardBecome();
         due("seed(5)", x.seed(5), 0);
         due("seed(-1)", x.seed(-1), OUTSIDE);
@@ -1118,7 +1054,7 @@ public final class PromiseTest {
     }
 
     private static void keep() {
-        promise = "35 keep";
+        about("35 keep");
         CardBecome x = new CardBecome();
         due("keep(0) without a table", x.keep(0), 1);
         due("goBack(0) without a table", x.goBack(0), 1);
@@ -1138,7 +1074,7 @@ public final class PromiseTest {
     }
 
     private static void goBack() {
-        promise = "36 goBack";
+        about("36 goBack");
         CardBecome x = with(SEVEN);
         due("goBack(0) of what was not kept", x.goBack(0), NOT);
         due("goBack(2)", x.goBack(2), UNKNOWN);

@@ -205,6 +205,13 @@ public final class SeenSentencesTest extends Sentences {
         x.see(2, 3, 0);
         due("ask(4): 0 and 2 part as 3 and 3", x.ask(4), 2);
         due("ask(3): 3 has none", x.ask(3), NONE);
+        x.tear();
+        x.see(0, 1, 0);
+        x.see(0, 2, 0);
+        due("ask(4): 1 and 2 part as 4 and 4, 1 and 3 as 3 and 5, 0 and 3 as 6 and 2", x.ask(4), 12);
+        CardBecome pairs = with("r4 0 0;c5 0;c5 1;c6 0;c6 1;p;p;p;p;");
+        pairs.see(0, 1, 2);
+        due("ask(4): 0 and 1 are alike in all ways, 0 and 2 part as 4 and 4", pairs.ask(4), 2);
         CardBecome alike = with("r4 0 0;c5 0;c5 1;c6 0;p;p;p;");
         due("ask(3): as 2, 2 and 2", alike.ask(3), 1);
         alike.see(0, 1, 2);
@@ -345,15 +352,6 @@ public final class SeenSentencesTest extends Sentences {
         due("seed(0)", x.seed(0), zero.seed(0));
     }
 
-    private static String all(CardBecome x) {
-        StringBuilder text = new StringBuilder(packOf(x)).append('/').append(isOf(x)).append('/').append(winsOf(x));
-        text.append('/').append(x.told(7)).append('/').append(x.told(10)).append('/');
-        for (int i = 0; i < x.told(10); i++) {
-            text.append(x.logged(i, 0)).append(x.logged(i, 1)).append(x.logged(i, 2)).append(' ');
-        }
-        return text.append(x.told(11)).toString();
-    }
-
     private static CardBecome busy() {
         CardBecome x = with(SEVEN);
         drawAll(x);
@@ -368,25 +366,25 @@ public final class SeenSentencesTest extends Sentences {
         sentence("IMAGES 0, 1 keep all of section 2, THE SEED.");
         CardBecome x = busy();
         x.seed(11);
-        String first = all(x);
+        String first = sectionTwo(x);
         x.keep(0);
         x.out(3);
         x.getBack(1);
         x.meet(2, 1);
         x.seed(22);
-        String second = all(x);
+        String second = sectionTwo(x);
         x.keep(1);
         x.drift(60);
         x.see(0, 1, 0);
         x.write(0, 0);
         for (int again = 0; again < 2; again++) {
             due("goBack(0)", x.goBack(0), 1);
-            due("all of section 2, of image 0", all(x), first);
+            due("all of section 2, of image 0", sectionTwo(x), first);
             due("the seed of image 0", x.seed(5), 11);
             x.force(4);
             x.drawOne(3);
             due("goBack(1)", x.goBack(1), 1);
-            due("all of section 2, of image 1", all(x), second);
+            due("all of section 2, of image 1", sectionTwo(x), second);
             due("the seed of image 1", x.seed(6), 22);
             x.getBack(0);
             x.shuffle(0);

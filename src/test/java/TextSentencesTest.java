@@ -460,6 +460,9 @@ public final class TextSentencesTest extends Sentences {
         due("person(0, 0)", x.person(0, 0), UNKNOWN);
         due("drawOne(0)", x.drawOne(0), UNKNOWN);
         due("order(1)", x.order(1), UNKNOWN);
+        CardBecome low = with("r3 1 1;c1 1;p;");
+        low.table();
+        dueTold("behind rules of 3, 1, 1", low, NONE, 0, 0, 0, 0);
         CardBecome rules = with(RULES);
         due("rules alone are a table: told(0)", rules.told(0), 0);
         due("shuffle(0)", rules.shuffle(0), NONE);

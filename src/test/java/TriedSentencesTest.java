@@ -59,6 +59,8 @@ public final class TriedSentencesTest extends Sentences {
         due("told(9) of like ones who beat most", x.told(9), 1);
         due("told(9) of like ranks alone", drawn("r4 0 0;c5 0;c5 1;c5 2;p;p;p;").told(9), NONE);
         due("told(9): the last of six", drawn(TWELVE).told(9), 5);
+        due("told(9): the first of two, who beats one", drawn("r4 1 0;c5 0;c6 0;p;p;").told(9), 0);
+        due("told(9): the first of three", drawn("r4 1 0;c5 0;c6 0;c7 0;p;p;p;").told(9), 0);
     }
 
     private static void ringsTold() {
@@ -305,6 +307,8 @@ public final class TriedSentencesTest extends Sentences {
         CardBecome knave = drawn("r4 0 1;c11 0;c13 0;p;p;");
         knave.meet(0, 1);
         due("told(11): K is as told, 1", knave.told(11), 1023);
+        knave.meet(1, 0);
+        due("told(11): the knave is the second", knave.told(11), 1023);
         CardBecome no = drawn("r4 0 0;c11 0;c13 0;p;p;");
         no.meet(0, 1);
         due("told(11): K is as told, 0", no.told(11), 1 + 4 + 16 + 64 + 256);
@@ -344,6 +348,9 @@ public final class TriedSentencesTest extends Sentences {
         drawAll(x);
         x.meet(0, 2);
         due("tells() of the five of the higher: like ranks part as 1, 1, 3", x.tells(), 1);
+        CardBecome later = drawn("r4 0 0;c9 0;c5 1;c5 0;p;p;p;");
+        later.meet(0, 2);
+        due("tells(): 1, 1 and 3 is less than the 4 and 1 of earlier ones", later.tells(), 102);
         CardBecome far = with("r0 0 0;c2 0;c9 1;c9 2;c4 3;p;p;p;p;");
         drawAll(far);
         far.meet(0, 1);
@@ -399,6 +406,8 @@ public final class TriedSentencesTest extends Sentences {
         CardBecome twelve = with("r4 0 0;c11 0;c1 0;c2 0;c3 0;c4 0;c5 0;c6 0;c7 0;c8 0;c9 0;c10 0;c12 0;p;p;");
         twelve.drawOne(0);
         due("odds(1, 0): one of eleven, cut", twelve.odds(1, 0), 90909);
+        CardBecome last = drawn("r4 0 0;c5 0;c4 0;c6 0;p;p;");
+        due("odds(1, 0): the one card that is left", last.odds(1, 0), 1000000);
         CardBecome empty = drawn("r4 0 0;c5 0;p;p;");
         due("odds(1, 0) of an empty pack", empty.odds(1, 0), 0);
         due("odds(0, 1) of an empty pack, against itself", empty.odds(0, 1), 0);
@@ -427,6 +436,10 @@ public final class TriedSentencesTest extends Sentences {
         CardBecome alike = drawn("r4 0 0;c2 0;c2 1;c3 0;p;p;p;");
         due("back(0): one and none, one like it", alike.back(0), 1);
         due("back(2)", alike.back(2), 0);
+        CardBecome first = drawn("r4 0 0;c4 0;c3 0;c3 1;p;p;p;");
+        due("back(1): the first alone beats it", first.back(1), 1);
+        CardBecome last = drawn("r4 0 0;c3 0;c3 1;c4 0;p;p;p;");
+        due("back(1): the last alone beats it", last.back(1), 1);
         CardBecome ring = drawn("r4 0 1;c11 0;c12 1;c13 0;p;p;p;");
         due("back(0) in a ring", ring.back(0), 0);
     }

@@ -2,7 +2,7 @@ import java.io.IOException;
 import java.nio.file.Files;
 import java.nio.file.Path;
 
-/** What the tests by sentence share: the sentence that is held to, answers that are due, tables that are laid. */
+/** What the tests by promise and by sentence share: what is held to, answers that are due, tables that are laid. */
 abstract class Sentences {
     static final int NONE = -1;
     static final int UNKNOWN = -1000000001;
@@ -35,6 +35,11 @@ abstract class Sentences {
         }
     }
 
+    /** What is tested, where it is more than one sentence. */
+    static void about(String what) {
+        held = what;
+    }
+
     private static String document() {
         if (document.isEmpty()) {
             try {
@@ -62,7 +67,8 @@ abstract class Sentences {
     }
 
     static void end() {
-        System.out.println(wrong == 0 ? sentences + " sentences are held to" : wrong + " answers are not as due");
+        String kept = sentences == 0 ? "every promise is kept" : sentences + " sentences are held to";
+        System.out.println(wrong == 0 ? kept : wrong + " answers are not as due");
         if (wrong != 0) {
             System.exit(1);
         }
@@ -112,12 +118,20 @@ abstract class Sentences {
         due("the pack " + when, packOf(x), want);
     }
 
-    static String isOf(CardBecome x) {
+    static void duePack(CardBecome x, String want) {
+        duePack("", x, want);
+    }
+
+    private static String eachPerson(CardBecome x, int what) {
         StringBuilder row = new StringBuilder();
         for (int p = 0; p < x.told(4); p++) {
-            row.append(p == 0 ? "" : " ").append(x.person(p, 0));
+            row.append(p == 0 ? "" : " ").append(x.person(p, what));
         }
         return row.toString();
+    }
+
+    static String isOf(CardBecome x) {
+        return eachPerson(x, 0);
     }
 
     static void dueIs(String when, CardBecome x, String want) {
@@ -125,11 +139,17 @@ abstract class Sentences {
     }
 
     static String winsOf(CardBecome x) {
-        StringBuilder row = new StringBuilder();
-        for (int p = 0; p < x.told(4); p++) {
-            row.append(p == 0 ? "" : " ").append(x.person(p, 1));
+        return eachPerson(x, 1);
+    }
+
+    /** The pack, who is what, wins, drawers, the log and, by what is held, what both were. */
+    static String sectionTwo(CardBecome x) {
+        StringBuilder text = new StringBuilder(packOf(x)).append('/').append(isOf(x)).append('/').append(winsOf(x));
+        text.append('/').append(x.told(7)).append('/').append(x.told(10)).append('/');
+        for (int i = 0; i < x.told(10); i++) {
+            text.append(x.logged(i, 0)).append(x.logged(i, 1)).append(x.logged(i, 2)).append(' ');
         }
-        return row.toString();
+        return text.append(x.told(11)).toString();
     }
 
     static void dueTold(String when, CardBecome x, int... want) {
