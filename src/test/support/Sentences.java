@@ -67,7 +67,7 @@ abstract class Sentences {
     }
 
     static void end() {
-        String kept = sentences == 0 ? "every promise is kept" : sentences + " sentences are held to";
+        String kept = sentences == 0 ? "every answer is as due" : sentences + " sentences are held to";
         System.out.println(wrong == 0 ? kept : wrong + " answers are not as due");
         if (wrong != 0) {
             System.exit(1);
